@@ -63,7 +63,7 @@ public final class SignDots {
         if (notes.size >= MOST_NOTES) {
             return ROOM;
         }
-        signs.forget();
+        forgetAnswers();
         return notes.add(step, alter, bar, time, voice);
     }
 
@@ -77,7 +77,7 @@ public final class SignDots {
         if (what == TIED && v == 1 && notes.possibleTie(note) == NONE) {
             return WRONG;
         }
-        signs.forget();
+        forgetAnswers();
         return notes.setMark(note, what, v);
     }
 
@@ -85,7 +85,7 @@ public final class SignDots {
         if (!isBar(bar) || !within(fifths, -MOST_KEY, MOST_KEY)) {
             return OUTSIDE;
         }
-        signs.forget();
+        forgetAnswers();
         return keys.tell(bar, fifths);
     }
 
@@ -102,7 +102,7 @@ public final class SignDots {
         }
         int was = rules[what];
         rules[what] = v;
-        signs.forget();
+        forgetAnswers();
         return was;
     }
 
@@ -110,7 +110,7 @@ public final class SignDots {
         if (notes.size == 0) {
             return UNKNOWN;
         }
-        signs.forget();
+        forgetAnswers();
         notes.removeLast();
         return notes.size;
     }
@@ -199,6 +199,13 @@ public final class SignDots {
             return keyRow.letter[i];
         }
         return what == 1 ? keyRow.alter[i] + ALTER_SHIFT : keyRow.place[i] + PLACE_SHIFT;
+    }
+
+    /** What was found is kept until a change, as many questions follow one another. */
+    private void forgetAnswers() {
+        signs.forget();
+        columns.forget();
+        dotSpaces.forget();
     }
 
     private void layOutKey(int bar) {
@@ -649,13 +656,22 @@ public final class SignDots {
         private final int[] columnWidth = new int[MOST_NOTES];
         private int size;
         private int leastSum;
+        private int laidOut = NONE;
 
         Columns(Notes theNotes, Signs theSigns) {
             notes = theNotes;
             signs = theSigns;
         }
 
+        void forget() {
+            laidOut = NONE;
+        }
+
         void layOut(int start) {
+            if (start == laidOut) {
+                return;
+            }
+            laidOut = start;
             collectFromTop(start, notes.chordEnd(start));
             bringToZigzag();
             Arrays.fill(columnWidth, 0);
@@ -791,12 +807,21 @@ public final class SignDots {
         private int size;
         private int lowest;
         private int spaces;
+        private int laidOut = NONE;
 
         DotSpaces(Notes theNotes) {
             notes = theNotes;
         }
 
+        void forget() {
+            laidOut = NONE;
+        }
+
         void layOut(int start) {
+            if (start == laidOut) {
+                return;
+            }
+            laidOut = start;
             collectFromTop(start, notes.chordEnd(start));
             if (size == 0) {
                 return;

@@ -430,6 +430,8 @@ public final class PromisesTest {
         due("and all VOICES", y.sign(2, 0), 1);
         y.rule(1, 1);
         due("not for another VOICE", y.sign(2, 0), 0);
+        y.note(0, 2, 0, 0, 3);
+        due("the first SEAT with the last VOICE", y.sign(3, 0), 1);
     }
 
     private static void old() {
@@ -468,6 +470,13 @@ public final class PromisesTest {
         x.note(30, 2, 1, 5, 0);
         x.note(30, -2, 1, 5, 0);
         due("MIXED in the BAR before", x.sign(2, 0), 2);
+        // The BAR before is asked for, too, when the BAR itself has had NOTES of the SEAT.
+        SignDots w = new SignDots();
+        w.rule(2, 1);
+        int[] alters = {2, 2, 0, 0};
+        int[] later = {1, 1, 1, 2};
+        for (int i = 0; i < 4; i++) w.note(30, alters[i], i == 0 ? 0 : 1, i, 0);
+        for (int i = 0; i < 4; i++) due("after others in the BAR, NOTE " + i, w.sign(i, 0), later[i]);
         SignDots y = new SignDots();
         y.rule(2, 1);
         y.key(0, 7);
@@ -505,6 +514,7 @@ public final class PromisesTest {
         x.rule(1, 0);
         x.rule(0, 1);
         due("with OCTAVES 1 it NEEDS one", x.sign(1, 0), 1);
+        due("with OCTAVES 1 none is a COURTESY", x.count(2), 0);
         // A TIED NOTE is a NOTE in the BAR, but its SEAT's STATE is the KEY's.
         SignDots y = new SignDots();
         y.rule(2, 2);
@@ -680,24 +690,41 @@ public final class PromisesTest {
                 }
             }
         }
-        // Brackets make a double sharp reach 2 both ways.
-        SignDots x = new SignDots();
-        x.rule(2, 1);
-        int[] steps = {30, 33};
-        for (int step : steps) {
-            x.note(step, 4, 1, 0, 0);
-            x.note(step, 4, 1, 2, 0);
+        // Brackets make a double sharp reach 2 both ways; in the BAR before both STEPS are natural.
+        for (int distance = 3; distance <= 4; distance++) {
+            SignDots x = new SignDots();
+            x.rule(2, 1);
+            for (int time = 0; time < 2; time++) {
+                x.note(30, 4, 1, time, 0);
+                x.note(30 + distance, 4, 1, time, 0);
+            }
+            due("two double sharps", x.extent(1, 0), 10);
+            due("a COURTESY", x.sign(2, 0), 2);
+            due("COURTESIES of two by " + distance, x.extent(1, 1), distance == 3 ? 36 : 18);
+            due("the higher one", x.sign(3, 4), 0);
+            due("the lower one", x.sign(2, 4), distance == 3 ? 1 : 0);
         }
-        due("two double sharps", x.extent(1, 0), 10);
-        due("NEEDED by none", x.extent(1, 2), 36);
-        due("a COURTESY", x.sign(1, 0), 2);
-        due("COURTESIES reach 2", x.sign(1, 4), 1);
-        due("the higher one", x.sign(3, 4), 0);
-        x.note(38, 4, 1, 0, 0);
-        x.note(38, 4, 1, 2, 0);
-        due("one that is 5 above", x.sign(5, 4), 0);
-        due("moves the middle one", x.sign(3, 4), 1);
-        due("not the lowest one", x.sign(1, 4), 0);
+        SignDots y = new SignDots();
+        y.note(30, 4, 0, 0, 0);
+        y.note(32, 4, 0, 0, 0);
+        y.note(34, 4, 0, 0, 0);
+        due("three by the least distance", y.extent(0, 0), 10);
+        y.note(31, 4, 0, 1, 0);
+        y.note(32, 2, 0, 1, 0);
+        y.note(35, 2, 0, 1, 0);
+        y.note(39, 2, 0, 1, 0);
+        due("the highest", y.sign(6, 4), 0);
+        due("the lowest", y.sign(3, 4), 1);
+        due("the second, 4 above the lowest", y.sign(5, 4), 1);
+        due("the last but one", y.sign(4, 4), 0);
+        SignDots z = new SignDots();
+        z.rule(2, 8);
+        z.key(1, 7);
+        z.note(30, 2, 1, 0, 0);
+        z.note(36, 2, 1, 0, 0);
+        due("COURTESIES of sharps reach 3", z.extent(1, 0), 18);
+        z.note(42, 2, 1, 0, 0);
+        due("and a third one", z.extent(1, 0), 18);
     }
 
     private static void columnsSearched() {
@@ -734,6 +761,7 @@ public final class PromisesTest {
         for (int i = 0; i < 7; i++) x.note(steps[i], alters[i], 0, 0, 0);
         int[] want = {0, 3, 4, 2, 1, 0, 1};
         for (int i = 0; i < 7; i++) due("COLUMN of " + i, x.sign(i, 4), want[i]);
+        due("their width", x.extent(0, 0), 59);
         // Eight at one place, with each VOICE for itself: eight COLUMNS.
         SignDots y = new SignDots();
         y.rule(1, 1);
@@ -774,6 +802,11 @@ public final class PromisesTest {
         x.mark(2, 2, 1);
         due("like places share", x.dot(2), 105);
         due("like places share", x.dot(1), 105);
+        x.note(35, 0, 0, 0, 0);
+        due("one without DOTS does not count", x.dot(1), 105);
+        x.mark(3, 2, 1);
+        due("with DOTS it does", x.dot(1), 103);
+        x.drop();
         x.clef(0, 1);
         due("in CLEF 1", x.dot(0), 113);
         due("in CLEF 1", x.dot(1), 117);
@@ -788,6 +821,10 @@ public final class PromisesTest {
         y.mark(2, 2, 1);
         due("another CHORD", y.dot(2), 71);
         due("is for itself", y.dot(0), 71);
+        y.note(68, 0, 0, 0, 0);
+        y.mark(3, 2, 1);
+        due("next to the highest", y.dot(3), 137);
+        due("the highest", y.dot(1), 139);
     }
 
     private static void dotsOf(int[] steps, int[] want) {
@@ -843,6 +880,20 @@ public final class PromisesTest {
         y.rule(4, 1);
         // From b e a to f c g d a e: b alone is altered no more.
         due("from flats to sharps", y.keySigns(1), 7);
+        SignDots z = new SignDots();
+        z.key(1, 3);
+        z.key(2, 0);
+        int[] ended = {0, 3, 3};
+        for (int cancel = 0; cancel < 3; cancel++) {
+            z.rule(4, cancel);
+            due("from 3 to 0", z.keySigns(2), ended[cancel]);
+            due("from 0 to 3", z.keySigns(1), 3);
+            due("0 at BAR 0", z.keySigns(0), 0);
+        }
+        for (int k = -7; k <= 7; k++) {
+            z.key(0, k);
+            due("KEY " + k + " at BAR 0", z.keySigns(0), Math.abs(k));
+        }
     }
 
     private static void keySign() {
@@ -853,6 +904,9 @@ public final class PromisesTest {
         SignDots x = new SignDots();
         x.key(0, 7);
         x.key(3, -7);
+        x.key(6, 0);
+        x.key(7, 1);
+        x.key(8, -1);
         for (int kind = 0; kind < 3; kind++) {
             x.clef(0, kind);
             for (int i = 0; i < 7; i++) {
@@ -863,6 +917,8 @@ public final class PromisesTest {
                 due("ALTER of flat " + i, x.keySign(3, i, 1), 8);
                 due("CLEF " + kind + ", place of flat " + i, x.keySign(3, i, 2), 100 + flatPlaces[kind][i]);
             }
+            due("the place of one sharp", x.keySign(7, 0, 2), 100 + sharpPlaces[kind][0]);
+            due("the place of one flat", x.keySign(8, 0, 2), 100 + flatPlaces[kind][0]);
         }
     }
 
