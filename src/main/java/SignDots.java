@@ -749,7 +749,7 @@ public final class SignDots {
             leastSum = 0;
             for (int i = 0; i < size; i++) {
                 int c = 0;
-                // Fewer signs than this one's index leave a COLUMN free at the index at the latest.
+                // The i signs ahead have taken COLUMNS below i alone, so COLUMN i is free.
                 while (c < i && !canStand(i, c, column)) {
                     c++;
                 }
