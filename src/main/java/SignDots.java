@@ -120,8 +120,10 @@ public final class SignDots {
             case 0:
                 return notes.size;
             case 1:
+                signs.find();
                 return signs.howMany(NEEDED);
             case 2:
+                signs.find();
                 return signs.howMany(IN_BRACKETS);
             case 3:
                 return notes.howManyChords();
@@ -483,7 +485,6 @@ public final class SignDots {
         }
 
         int howMany(int ofKind) {
-            find();
             int number = 0;
             for (int note = 0; note < notes.size; note++) {
                 if (kind[note] == ofKind) {
