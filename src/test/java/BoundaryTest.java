@@ -1539,6 +1539,16 @@ public final class BoundaryTest {
         due("and the first again", x.dot(0), 103);
         x.mark(4, 2, 0);
         due("a neighbour that has none any more", x.dot(0), 105);
+
+        // 7, 5, 3 and 5, 3, 1 have the sum 3 both, if those that share a place are counted once.
+        Staff once = new Staff();
+        int[] steps = {35, 35, 34, 33};
+        int[] spaces = {107, 107, 105, 103};
+        for (int n = 0; n < 4; n++) {
+            once.note(steps[n], 0, 0, 0, n);
+            once.mark(n, 2, 1);
+        }
+        for (int n = 0; n < 4; n++) due("one place counts once, NOTE " + n, once.dot(n), spaces[n]);
     }
 
     private static void dotsOfAllSubsets() {

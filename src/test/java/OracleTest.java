@@ -103,24 +103,27 @@ public final class OracleTest {
         private final int voices;
         private final int[] alters;
         private final boolean crowded;
+        /** Few STEPS of one LETTER, mostly TIED, and one bit of COURTESY at a time. */
+        private final boolean bound;
 
         Chooser(Random random, int run) {
             this.random = random;
             int[] spans = {1, 2, 8, 15, 70};
-            steps = spans[run % spans.length];
+            bound = run % 5 == 1;
+            steps = bound ? 21 : spans[run % spans.length];
             lowStep = random.nextInt(70 - steps + 1);
             bars = 1 + random.nextInt(run % 7 == 0 ? 20 : 4);
             times = 1 + random.nextInt(4);
-            voices = 1 + random.nextInt(4);
+            voices = 1 + random.nextInt(bound ? 2 : 4);
             int[][] habits = {{-4, -3, -2, -1, 0, 1, 2, 3, 4}, {0, 2}, {0, -2}, {-4, -2}, {4, 2, 0}, {-2, 0, 2, 4}};
-            alters = habits[random.nextInt(habits.length)];
+            alters = habits[bound ? 1 + random.nextInt(2) : random.nextInt(habits.length)];
             crowded = run % 6 == 0;
         }
 
         int[] next(int size) {
             int r = random.nextInt(100);
             if (r < (crowded ? 50 : 22)) {
-                return new int[] {1, odd(lowStep + random.nextInt(steps), -1, 70), odd(alters[random.nextInt(alters.length)], -5, 5),
+                return new int[] {1, odd(step(), -1, 70), odd(alters[random.nextInt(alters.length)], -5, 5),
                     odd(random.nextInt(bars), -1, 20), odd(random.nextInt(times), -1, 1000), odd(random.nextInt(voices), -1, 4)};
             }
             if (r < 58) {
@@ -129,10 +132,15 @@ public final class OracleTest {
             return question(size);
         }
 
+        private int step() {
+            int above = random.nextInt(steps);
+            return lowStep + (bound ? above - above % 7 : above);
+        }
+
         private int[] change(int size) {
             int r = random.nextInt(40);
             if (r < 24) {
-                int what = random.nextInt(3);
+                int what = bound && random.nextInt(6) > 0 ? 0 : random.nextInt(3);
                 int v = what == 2 ? random.nextInt(4) : random.nextInt(4) == 0 ? 0 : 1;
                 return new int[] {2, some(size), odd(what, -1, 3), odd(v, -1, what == 2 ? 4 : 2)};
             }
@@ -141,12 +149,14 @@ public final class OracleTest {
             if (r < 37) {
                 int what = random.nextInt(5);
                 int[] limits = {1, 1, 15, 1, 2};
+                if (what == 2 && bound) return new int[] {5, 2, 1 << random.nextInt(4)};
                 return new int[] {5, odd(what, -1, 5), odd(random.nextInt(limits[what] + 1), -1, limits[what] + 1)};
             }
             return crowded ? new int[] {7, random.nextInt(6) - 1} : new int[] {6};
         }
 
         private int[] question(int size) {
+            if (bound && random.nextInt(2) == 0) return new int[] {7, 2};
             int r = random.nextInt(40);
             if (r < 22) return new int[] {9, some(size), odd(random.nextInt(6), -1, 6)};
             if (r < 27) return new int[] {11, some(size)};
